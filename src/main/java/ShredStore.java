@@ -202,11 +202,6 @@ public final class ShredStore {
         return x ^ (x >>> 32);
     }
 
-    /** Byte i of words whose highest byte comes first. */
-    private static int byteOfWord(long word, int i) {
-        return (int) (word >>> (56 - 8 * (i & 7))) & 255;
-    }
-
     /** Whether the power is on, and how many steps it still allows when it is armed. */
     private static final class Power {
         private boolean on = true;
@@ -376,11 +371,11 @@ public final class ShredStore {
         }
 
         int dataLength() {
-            return byteAt(LENGTH_AT);
+            return (int) number(LENGTH_AT, 1);
         }
 
         int dataByte(int i) {
-            return byteAt(BYTES_AT + i);
+            return (int) number(BYTES_AT + i, 1);
         }
 
         void setData(int next, Tape tape, int from, int length) {
@@ -392,22 +387,21 @@ public final class ShredStore {
             }
         }
 
-        private int byteAt(int i) {
-            return i < 0 || i >= BODY_BYTES ? 0 : byteOfWord(words[i / 8], i);
-        }
-
         private void setByte(int i, long value) {
             if (i < 0 || i >= BODY_BYTES) {
                 return;
             }
-            int shift = 56 - 8 * (i & 7);
+            int shift = 56 - 8 * (i % 8);
             words[i / 8] = (words[i / 8] & ~(255L << shift)) | ((value & 255L) << shift);
         }
 
         private long number(int from, int bytes) {
+            if (from < 0 || from > BODY_BYTES - bytes) {
+                return 0;
+            }
             long value = 0;
-            for (int i = 0; i < bytes; i++) {
-                value = (value << 8) | byteAt(from + i);
+            for (int i = from; i < from + bytes; i++) {
+                value = (value << 8) | ((words[i / 8] << (8 * (i % 8))) >>> 56);
             }
             return value;
         }
@@ -446,7 +440,7 @@ public final class ShredStore {
         }
 
         int byteAt(int i) {
-            return i < 0 || i >= DISK_BYTES ? NONE : byteOfWord(words[i / 8], i);
+            return i < 0 || i >= DISK_BYTES ? NONE : (int) ((words[i / 8] << (8 * (i % 8))) >>> 56);
         }
 
         boolean fits(long key, int page, int kind) {

@@ -3,7 +3,7 @@ import java.util.Set;
 
 /** Long runs of calls, drawn by a fixed rule, on the store and on the plain model of the document. */
 public final class ModelTest {
-    private static final int RUNS = 60, CALLS = 512;
+    private static final int RUNS = 60, CHANGES = 512;
     private static final Check check = new Check();
 
     private long seed;
@@ -43,7 +43,7 @@ public final class ModelTest {
         // runs differ in how many objects they touch and how often the power goes
         int objects = run % 3 == 0 ? 5 : 66;
         int faults = run % 4;
-        for (int call = 0; call < CALLS && !check.failed(); call++) {
+        for (int call = 0; call < CHANGES && !check.failed(); call++) {
             String at = "run " + run + " call " + call + " ";
             if (change(at, objects, faults)) {
                 dueState(at);
@@ -59,8 +59,11 @@ public final class ModelTest {
             long key = drawKey();
             check.due(at + "supply(" + key + ")", store.supply(key), model.supply(key));
         } else if (way < 70) {
-            int v = draw(Integer.MAX_VALUE) * 2 + draw(2);
-            check.due(at + "feed(" + v + ")", store.feed(v), model.feed(v));
+            // some come in bursts, so that there are objects of two pages too
+            for (int words = draw(3) == 0 ? draw(26) : 1; words > 0; words--) {
+                int v = draw(Integer.MAX_VALUE) * 2 + draw(2);
+                check.due(at + "feed(" + v + ")", store.feed(v), model.feed(v));
+            }
         } else if (way < 84) {
             int n = draw(8) == 0 ? draw(100) - 2 : draw(model.tape.size() + 1);
             check.due(at + "put(" + object + ", " + n + ")", store.put(object, n), model.put(object, n));
