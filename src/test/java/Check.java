@@ -1,11 +1,21 @@
-/** Counts and prints the answers that are not the ones due. */
+/** Counts and prints the answers that are not the ones due, each under the sentence that asks for it. */
 final class Check {
+    private static final int PRINTED = 200;
+    private String sentence = "";
     private int wrong = 0;
 
+    /** The words of the document that the answers from here on are due by. */
+    void sentence(String words) {
+        sentence = words;
+    }
+
     void due(String call, long got, long want) {
-        if (got != want) {
-            wrong++;
-            System.out.println(call + " answered " + got + ", due is " + want);
+        if (got == want) {
+            return;
+        }
+        wrong++;
+        if (wrong <= PRINTED) {
+            System.out.println("[" + sentence + "] " + call + " answered " + got + ", due is " + want);
         }
     }
 

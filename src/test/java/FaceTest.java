@@ -13,8 +13,12 @@ public final class FaceTest {
         "power() boolean", "disk(int) int", "cell(int) long", "known(long) boolean", "knownAt(int) long",
         "live(int) boolean", "count(int) int"};
 
+    /** The mark of members that the compiler makes. */
+    private static final int SYNTHETIC = 0x1000;
+
     public static void main(String[] args) {
         Check check = new Check();
+        check.sentence("the public face");
         Set<String> got = new TreeSet<>();
         for (Field field : ShredStore.class.getDeclaredFields()) {
             addVisible(got, field.getModifiers(), field.getName() + " " + field.getType());
@@ -36,7 +40,7 @@ public final class FaceTest {
     }
 
     private static void addVisible(Set<String> got, int modifiers, String text) {
-        if (!Modifier.isPrivate(modifiers)) {
+        if (!Modifier.isPrivate(modifiers) && (modifiers & SYNTHETIC) == 0) {
             got.add((Modifier.isPublic(modifiers) ? "public " : "visible ") + text);
         }
     }

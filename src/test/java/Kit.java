@@ -1,31 +1,37 @@
-/** What several tests do to a store, and the document's pad written a second time. */
+/** What several tests do to a store, and the forms of the document written a second time. */
 final class Kit {
-    static final int DISK_BYTES = 12800;
+    static final int LAST = 65535;
+    static final int[] FAR = {Integer.MIN_VALUE, Integer.MIN_VALUE + 1, Integer.MAX_VALUE - 1, Integer.MAX_VALUE};
 
     private Kit() {
     }
 
-    static void supply(ShredStore store, long first, int count) {
+    static void supply(Subject s, long first, int count) {
         for (int i = 0; i < count; i++) {
-            if (!store.supply(first + i)) {
+            if (!s.supply(first + i)) {
                 throw new IllegalStateException("key " + (first + i) + " was not taken");
             }
         }
     }
 
     /** Feeds the bytes from, from + 1 and so on, n of them at least. */
-    static void feed(ShredStore store, int from, int n) {
+    static void feed(Subject s, int from, int n) {
         for (int i = 0; i < n; i += 4) {
             int b = from + i;
-            store.feed((b & 255) << 24 | (b + 1 & 255) << 16 | (b + 2 & 255) << 8 | b + 3 & 255);
+            s.feed((b & 255) << 24 | (b + 1 & 255) << 16 | (b + 2 & 255) << 8 | b + 3 & 255);
         }
     }
 
-    /** Puts n bytes (from, from + 1 ..) under four keys from firstKey on. */
-    static int put(ShredStore store, int object, int from, int n, long firstKey) {
-        supply(store, firstKey, 4);
-        feed(store, from, n);
-        return store.put(object, n);
+    /** Puts n bytes (from, from + 1 ..) under the keys firstKey to firstKey + 3. */
+    static int put(Subject s, int object, int from, int n, long firstKey) {
+        supply(s, firstKey, 4);
+        feed(s, from, n);
+        return s.put(object, n);
+    }
+
+    static int shred(Subject s, int object, long firstKey) {
+        supply(s, firstKey, 3);
+        return s.shred(object);
     }
 
     static long pad(long key, long n, long j) {
@@ -36,12 +42,9 @@ final class Kit {
         return x;
     }
 
-    static int[] diskOf(ShredStore store) {
-        int[] bytes = new int[DISK_BYTES];
-        for (int i = 0; i < DISK_BYTES; i++) {
-            bytes[i] = store.disk(i);
-        }
-        return bytes;
+    /** What byte i of a page's 51 is xor-ed with. */
+    static int padByte(long key, long writing, int i) {
+        return (int) (pad(key, writing, i / 8) >>> (56 - 8 * (i % 8)) & 255);
     }
 
     static long number(int[] bytes, int from, int count) {
@@ -50,36 +53,6 @@ final class Kit {
             value = value << 8 | bytes[from + i];
         }
         return value;
-    }
-
-    /** The 51 bytes of a page without the pad, by the key it was written under. */
-    static int[] body(ShredStore store, int page, long key) {
-        int[] bytes = new int[64];
-        for (int i = 0; i < 64; i++) {
-            bytes[i] = store.disk(page * 64 + i);
-        }
-        long writing = number(bytes, 1, 4);
-        int[] body = new int[51];
-        for (int i = 0; i < 51; i++) {
-            body[i] = bytes[13 + i] ^ (int) (pad(key, writing, i / 8) >>> (8 * (7 - i % 8)) & 255);
-        }
-        return body;
-    }
-
-    /** Checks kind, writing, tag and body of a page; the bytes that want does not have are 0. */
-    static void duePage(Check check, ShredStore store, int page, int kind, long writing, long key, int[] want) {
-        String name = "page " + page + " ";
-        check.due(name + "kind", store.disk(page * 64), kind);
-        for (int i = 0; i < 4; i++) {
-            check.due(name + "writing " + i, store.disk(page * 64 + 1 + i), writing >>> (24 - 8 * i) & 255);
-        }
-        for (int i = 0; i < 8; i++) {
-            check.due(name + "tag " + i, store.disk(page * 64 + 5 + i), pad(key, writing, 100) >>> (56 - 8 * i) & 255);
-        }
-        int[] body = body(store, page, key);
-        for (int i = 0; i < 51; i++) {
-            check.due(name + "body " + i, body[i], i < want.length ? want[i] : 0);
-        }
     }
 
     /** A node's bytes from key, page, key, page ..: up to four pairs. */
@@ -93,6 +66,19 @@ final class Kit {
             bytes[10 * e + 9] = (int) (pairs[2 * e + 1] & 255);
         }
         return bytes;
+    }
+
+    /** A node with one entry. */
+    static int[] nodeWith(int entry, long key, int page) {
+        long[] pairs = new long[8];
+        pairs[2 * entry] = key;
+        pairs[2 * entry + 1] = page;
+        return node(pairs);
+    }
+
+    /** Whether the document leaves open what byte i of a node is: the page of an entry that is none. */
+    static boolean isOpen(int[] node, int i) {
+        return i < 40 && i % 10 >= 8 && number(node, i / 10 * 10, 8) == 0;
     }
 
     /** A data page's bytes: next page, count, and the bytes from, from + 1 .. */

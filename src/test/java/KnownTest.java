@@ -1,92 +1,173 @@
-/** Promises 13 and 14: known, knownAt. */
+/** Promise 13: known. */
 public final class KnownTest {
     private static final Check check = new Check();
 
     public static void main(String[] args) {
-        oneObject();
-        orderOfPages();
-        pagesBehindAreAskedInTheSameRound();
-        entriesInOrder();
-        keysThatWereLeftOut();
+        keyZero();
+        cellWithoutAKey();
+        suppliedKeys();
+        cellsKeyAndEntries();
+        dataTellsNoKeys();
+        keysOfOldNodesThatAreStillInTheTree();
+        keysThatWereReplaced();
+        keysThatWereShredded();
         keysWrittenInVain();
+        keysOfPagesWrittenOver();
+        whenThePowerIsOff();
+        otherNumbers();
         check.end();
     }
 
-    private static void dueKnown(ShredStore store, long... want) {
-        check.due("count(7)", store.count(7), want.length);
-        for (int k = 0; k < want.length; k++) {
-            check.due("knownAt(" + k + ")", store.knownAt(k), want[k]);
-            check.due("known(" + want[k] + ")", store.known(want[k]), true);
+    private static void dueKnown(Subject s, long from, long to, boolean want) {
+        for (long key = from; key <= to; key++) {
+            check.due("known(" + key + ")", s.known(key), want);
         }
-        int[] outside = {want.length, -1, Integer.MAX_VALUE, Integer.MIN_VALUE};
-        for (int k : outside) {
-            check.due("knownAt(" + k + ")", store.knownAt(k), 0);
+    }
+
+    private static void keyZero() {
+        check.sentence("the key 0 is none: not the cell's (not 0), and not that of an entry that is none");
+        Subject s = new Subject();
+        check.due("known(0), new", s.known(0), false);
+        Kit.put(s, 0, 1, 4, 1);
+        check.due("known(0)", s.known(0), false);
+        Kit.shred(s, 0, 11);
+        check.due("known(0), the root empty", s.known(0), false);
+    }
+
+    private static void cellWithoutAKey() {
+        check.sentence("the cell's key (not 0): a cell without a key tells nothing");
+        Subject s = new Subject();
+        s.arm(16);
+        check.due("put", Kit.put(s, 0, 1, 4, 1), 0);
+        dueKnown(s, 0, 4, false);
+        check.due("count(7)", s.count(7), 0);
+        check.due("knownAt(0)", s.knownAt(0), 0);
+    }
+
+    private static void suppliedKeys() {
+        check.sentence("can be come to from the cell's key and all bytes of the disk: not from the row");
+        Subject s = new Subject();
+        Kit.supply(s, 1, 8);
+        dueKnown(s, 1, 8, false);
+        s.put(0, 0);
+        dueKnown(s, 1, 4, true);
+        dueKnown(s, 5, 8, false);
+    }
+
+    private static void cellsKeyAndEntries() {
+        check.sentence("the cell's key, and all keys of entries of nodes that one of these fits, step by step");
+        long[] firsts = {1, -100, Long.MIN_VALUE, Long.MAX_VALUE - 3, 1L << 40};
+        for (long first : firsts) {
+            Subject s = new Subject();
+            Kit.put(s, 63, 1, 96, first);
+            dueKnown(s, first, first + 2, true);
+            check.due("known(the cell's)", s.known(first + 3), true);
+            check.due("known(one less)", s.known(first - 1), false);
         }
-        check.due("known(0)", store.known(0), false);
     }
 
-    private static void oneObject() {
-        ShredStore store = new ShredStore();
-        dueKnown(store);
-        Kit.supply(store, 1, 4);
-        check.due("known, supplied only", store.known(1), false);
-        store.put(0, 0);
-        dueKnown(store, 4, 3, 2, 1);
-        store.cut();
-        dueKnown(store, 4, 3, 2, 1);
+    private static void dataTellsNoKeys() {
+        check.sentence("all keys of entries of nodes: a page of data is none");
+        Subject s = new Subject();
+        Kit.put(s, 0, 1, 96, 1000);
+        check.due("count(7)", s.count(7), 4);
+        // what the first page of data would tell if it were a node: its first eight bytes, and those behind ten
+        check.due("known(bytes 0 to 7)", s.known(0x0000300102030405L), false);
+        check.due("known(bytes 10 to 17)", s.known(0x08090A0B0C0D0E0FL), false);
     }
 
-    private static void orderOfPages() {
-        ShredStore store = new ShredStore();
-        Kit.put(store, 63, 1, 4, 10);
-        Kit.put(store, 0, 1, 4, 20);
-        // nodes: 11 on page 1, 12 on page 2, 21 on page 5, 22 on page 6, the root 23 on page 7;
-        // first 7 tells 22 and 12, then 2 tells 11 and 6 tells 21, then 1 tells 10 and 5 tells 20
-        dueKnown(store, 23, 22, 12, 11, 21, 10, 20);
-    }
-
-    private static void pagesBehindAreAskedInTheSameRound() {
-        ShredStore store = new ShredStore();
-        Kit.put(store, 63, 1, 4, 10);
-        Kit.put(store, 63, 1, 4, 20);
-        store.cut();
-        store.power();
-        Kit.put(store, 0, 1, 4, 30);
-        // nodes: 31 on page 1, 32 on page 2, the root 33 on page 3, 21 on page 5, 22 on page 6;
-        // first 3 tells 32 and 22, and 6 tells 21; then 2 tells 31 and 5 tells 20; then 1 tells 30
-        check.due("cell(1)", store.cell(1), 3);
-        dueKnown(store, 33, 32, 22, 21, 31, 20, 30);
-    }
-
-    private static void entriesInOrder() {
-        ShredStore store = new ShredStore();
-        int[] objects = {3, 1, 0, 2};
-        for (int object : objects) {
-            Kit.put(store, object, 1, 4, 10 + 10 * object);
+    private static void keysOfOldNodesThatAreStillInTheTree() {
+        check.sentence("keys that old bytes of the disk still tell");
+        Subject s = new Subject();
+        Kit.put(s, 63, 1, 4, 10);
+        Kit.put(s, 40, 1, 4, 20);
+        for (int n = 0; n < 20; n++) {
+            Kit.put(s, 0, 1, 4, 100 + 4 * n);
         }
-        dueKnown(store, 33, 32, 31, 10, 20, 30, 40);
+        dueKnown(s, 10, 12, true);
+        dueKnown(s, 13, 13, false);
+        dueKnown(s, 20, 22, true);
+        dueKnown(s, 23, 23, false);
+        dueKnown(s, 100, 175, false);
+        dueKnown(s, 176, 179, true);
     }
 
-    private static void keysThatWereLeftOut() {
-        ShredStore store = new ShredStore();
-        Kit.put(store, 0, 1, 4, 10);
-        Kit.put(store, 1, 1, 4, 20);
-        dueKnown(store, 23, 22, 21, 10, 20);
-        Kit.supply(store, 30, 3);
-        store.shred(0);
-        dueKnown(store, 32, 31, 30, 20);
-        Kit.supply(store, 40, 3);
-        store.shred(1);
-        dueKnown(store, 40);
+    private static void keysThatWereReplaced() {
+        check.sentence("what was left out can't be come to any more: an object that was put anew");
+        Subject s = new Subject();
+        Kit.put(s, 0, 1, 4, 10);
+        Kit.put(s, 1, 1, 4, 20);
+        Kit.put(s, 0, 2, 4, 30);
+        dueKnown(s, 10, 13, false);
+        dueKnown(s, 20, 20, true);
+        dueKnown(s, 21, 23, false);
+        dueKnown(s, 30, 33, true);
+    }
+
+    private static void keysThatWereShredded() {
+        check.sentence("what was left out can't be come to any more: an object that was shredded");
+        Subject s = new Subject();
+        Kit.put(s, 0, 1, 4, 10);
+        Kit.put(s, 1, 1, 4, 20);
+        Kit.shred(s, 0, 30);
+        dueKnown(s, 10, 13, false);
+        dueKnown(s, 20, 20, true);
+        dueKnown(s, 21, 23, false);
+        dueKnown(s, 30, 32, true);
+        Kit.shred(s, 1, 40);
+        dueKnown(s, 10, 32, false);
+        dueKnown(s, 40, 40, true);
+        dueKnown(s, 41, 42, false);
     }
 
     private static void keysWrittenInVain() {
-        ShredStore store = new ShredStore();
-        Kit.put(store, 0, 1, 4, 10);
-        Kit.supply(store, 20, 4);
-        store.arm(16);
-        check.due("put", store.put(1, 0), 0);
-        dueKnown(store, 13, 12, 11, 10);
-        check.due("page 7 is whole", store.disk(7 * 64), 1);
+        check.sentence("wherever the power goes: the old keys can be come to, and none of the new ones");
+        for (int n = 0; n < 17; n++) {
+            Subject s = new Subject();
+            Kit.put(s, 0, 1, 4, 10);
+            s.arm(n);
+            check.due("put", Kit.put(s, 0, 2, 4, 20), 0);
+            dueKnown(s, 10, 13, true);
+            dueKnown(s, 20, 23, false);
+            s.power();
+            dueKnown(s, 10, 13, true);
+            dueKnown(s, 20, 23, false);
+            check.due("put", Kit.put(s, 0, 2, 4, 30), 1);
+            dueKnown(s, 10, 13, false);
+            dueKnown(s, 20, 23, false);
+            dueKnown(s, 30, 33, true);
+        }
+    }
+
+    private static void keysOfPagesWrittenOver() {
+        check.sentence("keys such as old bytes of the disk no longer tell: their pages have been written over");
+        Subject s = new Subject();
+        for (int n = 0; n < 60; n++) {
+            Kit.put(s, 9, 1, 0, 1 + 4 * n);
+        }
+        dueKnown(s, 237, 240, true);
+        dueKnown(s, 1, 80, false);
+        check.due("count(7)", s.count(7), 4);
+    }
+
+    private static void whenThePowerIsOff() {
+        check.sentence("whether a key can be come to: the power is not asked for");
+        Subject s = new Subject();
+        Kit.put(s, 0, 1, 4, 10);
+        s.cut();
+        dueKnown(s, 10, 13, true);
+        dueKnown(s, 14, 14, false);
+        check.due("known(0)", s.known(0), false);
+    }
+
+    private static void otherNumbers() {
+        check.sentence("whether a key can be come to: all of its 64 bits count");
+        Subject s = new Subject();
+        Kit.put(s, 0, 1, 4, 10);
+        check.due("known(10 + 2^32)", s.known(10 + (1L << 32)), false);
+        check.due("known(10 + 2^63)", s.known(10 + Long.MIN_VALUE), false);
+        check.due("known(-1)", s.known(-1), false);
+        check.due("known(least)", s.known(Long.MIN_VALUE), false);
+        check.due("known(greatest)", s.known(Long.MAX_VALUE), false);
     }
 }

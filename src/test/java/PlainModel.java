@@ -8,7 +8,9 @@ import java.util.Set;
  * holds ShredStore against.
  */
 final class PlainModel {
-    final int[] disk = new int[Kit.DISK_BYTES];
+    final int[] disk = new int[Picture.DISK_BYTES];
+    /** Bytes of the disk that the document leaves open: the pages of entries that are none. */
+    final boolean[] open = new boolean[Picture.DISK_BYTES];
     long cellKey = 0;
     int cellPage = -1;
     boolean on = true;
@@ -143,12 +145,15 @@ final class PlainModel {
         for (int i = 0; i < 8; i++) {
             bytes[5 + i] = (int) (Kit.pad(key, writing, 100) >>> (56 - 8 * i) & 255);
         }
+        boolean[] left = new boolean[64];
         for (int i = 0; i < 51; i++) {
-            bytes[13 + i] = body[i] ^ (int) (Kit.pad(key, writing, i / 8) >>> (56 - 8 * (i % 8)) & 255);
+            bytes[13 + i] = body[i] ^ Kit.padByte(key, writing, i);
+            left[13 + i] = kind == 1 && Kit.isOpen(body, i);
         }
         for (int from = 48; from >= 0; from -= 16) {
             step();
             System.arraycopy(bytes, from, disk, 64 * page + from, 16);
+            System.arraycopy(left, from, open, 64 * page + from, 16);
         }
         written++;
         writtenNow.add(page);
@@ -203,7 +208,7 @@ final class PlainModel {
         long writing = Kit.number(disk, 64 * page + 1, 4);
         int[] body = new int[51];
         for (int i = 0; i < 51; i++) {
-            body[i] = disk[64 * page + 13 + i] ^ (int) (Kit.pad(key, writing, i / 8) >>> (56 - 8 * (i % 8)) & 255);
+            body[i] = disk[64 * page + 13 + i] ^ Kit.padByte(key, writing, i);
         }
         return body;
     }
