@@ -5,6 +5,7 @@ public final class SupplyTest {
     public static void main(String[] args) {
         zeroIsNoKey();
         keysHave64Bits();
+        anyKeyInAnyPlace();
         behindTheRow();
         suppliedBeforeAndInTheRow();
         suppliedBeforeAndTaken();
@@ -45,6 +46,33 @@ public final class SupplyTest {
         check.due("cell(0)", s.cell(0), -1L << 32);
         check.due("known(1)", s.known(1), true);
         check.due("known(2^32)", s.known(1L << 32), true);
+    }
+
+    private static void anyKeyInAnyPlace() {
+        check.sentence("keys are numbers of 64 bits but 0: each of them for an object and for each node");
+        long[] keys = {1, 2, -1, -2, Long.MIN_VALUE, Long.MAX_VALUE, 65535, 1L << 32, -1L << 32, -1L >>> 32};
+        for (long key : keys) {
+            for (int place = 0; place < 4; place++) {
+                Subject s = new Subject();
+                Kit.put(s, 6, 1, 4, 1000);
+                Kit.supply(s, 2000, place);
+                check.due("supply(" + key + ")", s.supply(key), true);
+                Kit.supply(s, 2000 + place, 3 - place);
+                Kit.feed(s, 50, 60);
+                String name = "key " + key + " in place " + place;
+                check.due(name + ", put", s.put(5, 60), 1);
+                check.due(name + ", size", s.size(5), 60);
+                check.due(name + ", at", s.at(5, 59), 109);
+                check.due(name + ", size of another", s.size(6), 4);
+                check.due(name + ", live pages", s.count(3), 6);
+                check.due(name + ", keys known", s.count(7), 5);
+                check.due(name + ", known", s.known(key), true);
+                check.due(name + ", knownAt", place == 3 ? s.knownAt(0) == key : s.knownAt(0) == 2002, true);
+                check.due(name + ", shred", Kit.shred(s, 5, 3000), 1);
+                check.due(name + ", known, shredded", s.known(key), false);
+                check.due(name + ", size of another, shredded", s.size(6), 4);
+            }
+        }
     }
 
     private static void behindTheRow() {
