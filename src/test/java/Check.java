@@ -10,9 +10,18 @@ final class Check {
     }
 
     void due(String call, long got, long want) {
-        if (got == want) {
-            return;
+        if (got != want) {
+            tell(call, String.valueOf(got), String.valueOf(want));
         }
+    }
+
+    void due(String call, String got, String want) {
+        if (!got.equals(want)) {
+            tell(call, got, want);
+        }
+    }
+
+    private void tell(String call, String got, String want) {
         wrong++;
         if (wrong <= PRINTED) {
             System.out.println("[" + sentence + "] " + call + " answered " + got + ", due is " + want);
