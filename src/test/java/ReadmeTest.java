@@ -1,9 +1,4 @@
-import java.io.ByteArrayOutputStream;
 import java.io.IOException;
-import java.io.PrintStream;
-import java.net.URL;
-import java.net.URLClassLoader;
-import java.nio.charset.StandardCharsets;
 import java.nio.file.Files;
 import java.nio.file.Path;
 import java.util.ArrayList;
@@ -13,8 +8,6 @@ import java.util.TreeSet;
 import java.util.regex.Matcher;
 import java.util.regex.Pattern;
 import java.util.stream.Stream;
-import javax.tools.JavaCompiler;
-import javax.tools.ToolProvider;
 
 /** README.md: its example does what stands behind its lines, and its tables name all calls and all tests. */
 public final class ReadmeTest {
@@ -67,30 +60,23 @@ public final class ReadmeTest {
         }
     }
 
-    /** Compiles the example as it stands there, beside the class, and runs it. */
+    /** What the example prints, compiled as it stands there with the commands that stand there. */
     private static List<String> run(List<String> example) throws Exception {
         Path dir = Files.createTempDirectory("readme");
         try {
-            Path file = Files.write(dir.resolve("Example.java"), example);
-            JavaCompiler javac = ToolProvider.getSystemJavaCompiler();
-            int failed = javac.run(null, null, null, "-d", dir.toString(), SOURCE.toString(), file.toString());
-            check.due("javac of the example", failed, 0);
-            return failed == 0 ? printed(dir) : List.of();
+            String file = Files.write(dir.resolve("Example.java"), example).toString();
+            printed("javac", "-d", dir.toString(), SOURCE.toString(), file);
+            return printed("java", "-cp", dir.toString(), "Example");
         } finally {
             delete(dir);
         }
     }
 
-    private static List<String> printed(Path classes) throws Exception {
-        PrintStream out = System.out;
-        ByteArrayOutputStream bytes = new ByteArrayOutputStream();
-        try (URLClassLoader loader = new URLClassLoader(new URL[] {classes.toUri().toURL()}, null)) {
-            System.setOut(new PrintStream(bytes, true, StandardCharsets.UTF_8));
-            loader.loadClass("Example").getMethod("main", String[].class).invoke(null, (Object) new String[0]);
-        } finally {
-            System.setOut(out);
-        }
-        return bytes.toString(StandardCharsets.UTF_8).lines().toList();
+    private static List<String> printed(String... command) throws Exception {
+        Process process = new ProcessBuilder(command).redirectError(ProcessBuilder.Redirect.INHERIT).start();
+        List<String> lines = new String(process.getInputStream().readAllBytes()).lines().toList();
+        check.due("exit code of " + command[0], process.waitFor(), 0);
+        return lines;
     }
 
     private static void delete(Path dir) throws IOException {
